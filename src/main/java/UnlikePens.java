@@ -1557,7 +1557,7 @@ public final class UnlikePens {
             refused = 0;
         }
 
-        void run(State state, Hut hut, Law law, int from, int to, int open) {
+        private void run(State state, Hut hut, Law law, int from, int to, int open) {
             int i = from;
             while (i < to && i < MOST_STEPS && begun < MOST_BEGUN) {
                 begun++;

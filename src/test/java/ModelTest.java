@@ -4,6 +4,7 @@ import java.util.ArrayList;
 import java.util.Arrays;
 import java.util.List;
 import java.util.Random;
+import java.util.Set;
 import support.PensModel;
 import support.Texts;
 
@@ -15,6 +16,9 @@ public final class ModelTest {
         "total", "strange", "extreme", "through", "kept", "gives", "worst", "best", "hop", "tuning", "ring", "fits",
         "look", "ready", "latest", "alike", "chained", "liar", "reach", "room", "season", "span", "image", "restore",
         "status", "count"};
+
+    private static final Set<String> OWN_TEXTS = Set.of("no such pen or wire", "no such argument", "no such number",
+        "no such record", "the pen has no sheet");
 
     private final Random random;
     private final UnlikePens pens = new UnlikePens();
@@ -212,6 +216,7 @@ public final class ModelTest {
             RuntimeException thrown = (RuntimeException) e.getCause();
             if (object == model) {
                 model.refused(thrown);
+                return modelReason(thrown);
             }
             return reason(thrown);
         } catch (IllegalAccessException e) {
@@ -219,10 +224,16 @@ public final class ModelTest {
         }
     }
 
-    /** ArrayIndexOutOfBoundsException of a real array is an IndexOutOfBoundsException to the model's caller. */
-    private static String reason(RuntimeException thrown) {
+    /** In the model, the machine itself may throw, and then more narrowly than the document says. */
+    private static String modelReason(RuntimeException thrown) {
         return thrown instanceof IndexOutOfBoundsException ? "IndexOutOfBoundsException"
             : thrown.getClass().getSimpleName();
+    }
+
+    /** What the machine itself throws bears none of the program's own texts. */
+    private static String reason(RuntimeException thrown) {
+        boolean own = OWN_TEXTS.contains(String.valueOf(thrown.getMessage()));
+        return own ? thrown.getClass().getSimpleName() : "the machine's " + thrown;
     }
 
     // ---- texts

@@ -83,7 +83,6 @@ public final class UnlikePens {
     private int refusedSteps;
 
     public UnlikePens() {
-        refusedSteps = 0;
     }
 
     public int feed(int a, int b, int c, int d, int e) {

@@ -17,6 +17,7 @@ public final class ModelTest {
         "look", "ready", "latest", "alike", "chained", "liar", "reach", "room", "season", "span", "image", "restore",
         "status", "count"};
 
+    private static final String[] BACK = {"undo", "undo", "undo", "image", "restore", "total", "record", "pen", "told"};
     private static final Set<String> OWN_TEXTS = Set.of("no such pen or wire", "no such argument", "no such number",
         "no such record", "the pen has no sheet");
 
@@ -63,6 +64,8 @@ public final class ModelTest {
                 same = text("chain", mutated(chain()));
             } else if (dice < 24) {
                 same = text("book", mutated(book()));
+            } else if (dice < 36) {
+                same = ask(BACK[random.nextInt(BACK.length)]);
             } else {
                 same = ask(NAMES[random.nextInt(NAMES.length)]);
             }

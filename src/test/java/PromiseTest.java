@@ -288,9 +288,19 @@ public final class PromiseTest {
             fault() = 6
             law{least[least[most[most[least[least[most} = -7
             fault() = 34
+            law{least[1,(((((2)))))]} = 1
+            law{least[1,((((((2))))))]} = -7
+            fault() = 13
+            law{most[((((((2)))))),1]} = -7
+            fault() = 10
+            law{(1)+(1)+(1)+(1)+(1)+(1)+(1)+(1)+least[1,1]} = 1
+            law{62} = 1
             law{((((((leas} = -9
             fault() = 6
             would(0, 0, 0, 0, 0, 0, 0, 0) = 62
+            tape{1 +  5}
+            law(3) = -9
+            fault() = 3
             tape{1234567890}
             law(21) throws IllegalArgumentException
             law(-1) throws IllegalArgumentException
@@ -349,6 +359,10 @@ public final class PromiseTest {
             fault() = 4
             work{dayday;} = -9
             fault() = 0
+            work{dayz;} = -9
+            fault() = 0
+            work{again1[]; copy0 0 0;} = 1
+            undo() = 2
             work{day 1;} = -9
             fault() = 4
             work{read 0 1;read 0 1} = -9
@@ -514,6 +528,68 @@ public final class PromiseTest {
             work{day;day;read 0 9;copy 0 0 3;} = 4
             pen(0, 4) = 1
             record(0, 0) = 9
+            """);
+        check("5 places without a record are 0", """
+            hut{pen 3 1 1;pen 3 1 1;pen 5 1 0;pen 5 1 1;sheet 3;} = 4
+            work{read 0 5;read 0 6;day;read 1 7;read 1 8;copy 0 1 2;} = 6
+            record(1, 0) = 6
+            record(1, 1) = 0
+            work{wipe 0;read 1 9;copy 0 1 3;} = 3
+            total(1) = 0
+            pen(1, 4) = 3
+            work{read 2 1;tune 2 1 1;read 2 6;read 2 7;day;day;} = 6
+            work{again 3[read 3 1;];copy 2 3 3;} = 4
+            record(3, 0) = 7
+            record(3, 1) = 0
+            record(3, 2) = 0
+            work{tune 2 1 0;read 2 1;lay 2 3 0;tune 2 1 1;read 2 8;copy 2 3 2;} = 6
+            record(3, 0) = 8
+            record(3, 1) = 0
+            strange(3, 1) = 0
+            """);
+        check("5 real ones move, are copied", """
+            hut{pen 6 1 4;pen 6 1 1;sheet 3;} = 2
+            work{read 0 9;read 0 10;read 0 11;copy 0 1 2;} = 4
+            record(1, 0) = 2
+            record(1, 1) = 2
+            extreme(1, 0) = 1
+            extreme(0, 0) = 2
+            work{day;read 0 8;} = 2
+            extreme(0, 0) = 1
+            extreme(0, 1) = 2
+            image() = 1
+            work{wipe 0;} = 1
+            restore() = 0
+            extreme(0, 0) = 1
+            record(0, 2) = 2
+            undo() = 1
+            extreme(0, 1) = 0
+            """);
+        check("13 and others on a full sheet of 24", """
+            hut{pen 4 1 1;pen 4 2 1;sheet 24;} = 2
+            work{again 25[read 0 3;];again 24[read 1 1;];} = 48
+            told(9) = 1
+            record(0, 23) = 3
+            record(0, 24) throws IndexOutOfBoundsException
+            latest(0) = 3
+            total(0) = 72
+            strange(0, 1) = 0
+            extreme(0, 0) = 0
+            extreme(0, 1) = 0
+            alike(0, 1) = false
+            alike(0, 0) = true
+            level(0, 0) = 0
+            ready(0) = 0
+            room() = 0
+            work{copy 0 1 24;} = 1
+            alike(0, 1) = true
+            image() = 1
+            season(1, 9, 9, 2) = 38
+            work{day;} = 1
+            total(1) = 69
+            restore() = 0
+            undo() = 1
+            total(1) = 48
             """);
         check("5, 37 day 900", "hut{pen 3 1 1;} = 1\n" + "work{again 60[again 60[day;];];} = 195\n".repeat(4) + """
             told(2) = 780
@@ -913,6 +989,7 @@ public final class PromiseTest {
             kept(-2, 5) = 1
             kept(0, 0) = 0
             kept(0, 1000) = 1
+            gives(0, 0, 0) = -1
             kept(0, 1001) throws IllegalArgumentException
             kept(0, -1) throws IllegalArgumentException
             gives(2, 0, 10) = 3
@@ -947,6 +1024,10 @@ public final class PromiseTest {
             worst(0, 5, 1) = -1
             work{tune 4 1 1;} = 1
             through(300) = 29
+            work{tune 4 1 0;} = 1
+            chain{4;0;} = 2
+            through(1) throws ArithmeticException
+            kept(0, 1) = 0
             """);
         check("20 to 23 at the ends of the numbers", """
             hut{pen 3 1 1;pen 3 0 1;pen 3 1 1;} = 3
@@ -1012,6 +1093,14 @@ public final class PromiseTest {
             hop(0, 3, 300, 3) = 3
             best(1, 1, 300, 1) = 1
             """);
+        check("24, 25 by the PEN 0", """
+            hut{pen 3 1 1;pen 3 1 1;pen 3 1 1;wire 1 0;wire 0 2;} = 3
+            best(1, 2, 7, 1) = 3
+            hop(1, 2, 7, 0) = 1
+            hop(1, 2, 7, 1) = 0
+            hop(1, 2, 7, 2) = 2
+            best(2, 1, 7, 1) = -1
+            """);
         check("24 far ones are alike", """
             hut{pen 3 0 1;pen 3 1 1;pen 3 2 1;wire 0 1;wire 1 0;wire 0 2;wire 2 1;} = 3
             best(0, 1, -2147483648, 0) = 2147483647
@@ -1035,6 +1124,8 @@ public final class PromiseTest {
             tuning(4, 5, 5) = 101
             tuning(0, 300, 44) = 101
             tuning(2, 10, 3) = 103
+            tuning(2, 5, 2147483647) = -1
+            tuning(1, 431529176, -2305904) = 9999
             tuning(5, 0, 0) throws NoSuchElementException
             pen(1, 1) = 2
             """);
@@ -1072,6 +1163,21 @@ public final class PromiseTest {
             ring(0, 64, 1) = 256
             ring(0, 16, 0) = -1
             """);
+        check("27 a thousand, and one more", """
+            hut{pen 1 15 2;pen 1 59 12;pen 2 5 2;pen 2 57 43;} = 4
+            ring(0, 52, 0) = 1000
+            ring(0, 52, 1) = 592
+            ring(0, 7, 0) = -1
+            ring(0, 7, 1) = -1
+            ring(1, 19, 0) = 1000
+            ring(1, 19, 1) = 1000
+            ring(2, 12, 0) = 1000
+            ring(2, 12, 1) = 1
+            ring(2, 30, 0) = 999
+            ring(2, 5, 1) = -1
+            ring(3, 27, 0) = -1
+            ring(3, 27, 1) = -1
+            """);
     }
 
     private static void books() {
@@ -1108,6 +1214,31 @@ public final class PromiseTest {
             look(0) = 1
             look(1) = 3
             """);
+        check("29 up to 99", """
+            hut{pen 0 13 10;pen 3 13 10;} = 2
+            look(0) = 99
+            look(1) = 1
+            hut{pen 0 9 7;pen 3 9 7;} = 2
+            look(0) = 0
+            look(1) = 2
+            """);
+        check("7, 28 a fault leaves the book", """
+            hut{pen 3 1 1;pen 3 2 1;} = 2
+            book{1 2;} = 1
+            fits() = 2
+            book{1 1;1} = -9
+            fits() = 2
+            book{1 1;} = 1
+            fits() = 1
+            book{3 6;1;} = -9
+            fits() = 1
+            chain{1;} = 1
+            chain{0;0} = -9
+            through(5) = 10
+            chain{0;1;1;} = 3
+            chain{1;2;} = -8
+            through(5) = 20
+            """);
     }
 
     private static void readyAndLatest() {
@@ -1124,8 +1255,14 @@ public final class PromiseTest {
             work{day;tune 4 1 1;} = 2
             ready(0) = 21
             latest(0) = 3
+            work{day;} = 1
+            latest(0) = 3
+            work{day;} = 1
+            latest(0) throws IndexOutOfBoundsException
+            work{read 0 9;} = 1
+            latest(0) = 9
             status(2) = 1
-            status(3) = 2
+            status(3) = 3
             """);
     }
 
@@ -1213,6 +1350,12 @@ public final class PromiseTest {
             season(0, 1, 16, 0) = 0
             season(0, 1, 0, 2) = 1
             told(4) = 2
+            law{99} = 1
+            work{wipe 0;read 0 1;} = 2
+            told(5) = 1
+            season(0, 1, 0, 0) = 1
+            season(0, 1, 0, 1) = 1
+            season(0, 1, 0, 2) = 1
             """);
         check("37 without wires nothing more is drawn", """
             hut{pen 3 1 1;} = 1
@@ -1230,6 +1373,8 @@ public final class PromiseTest {
             law{in % 999 - 419} = 1
             span(0, 1, 1, 0, 0, 0) = 1
             span(0, 1, 1, 0, 1, 1) = 1
+            span(0, 3, 1, 0, 0, 0) = 1
+            span(0, 4, 1, 0, 0, 0) = 0
             span(0, 20, 1, 0, 1, 0) = 1
             span(0, 20, 1, 0, 0, 0) = 0
             span(0, 1, 1, 0, 2, 0) = 0
@@ -1294,6 +1439,55 @@ public final class PromiseTest {
             restore() = -1
             level(0, 0) = 33
             told(7) = 1
+            """);
+        check("39 works of an image", HUT + """
+            work{read 0 1;} = 1
+            work{read 0 2;} = 1
+            work{read 0 3;} = 1
+            image() = 1
+            undo() = 2
+            undo() = 1
+            undo() = 0
+            work{tear 0;} = 1
+            work{tune 0 7 7;} = 1
+            work{read 2 7;} = 1
+            restore() = 0
+            total(0) = 6
+            undo() = 2
+            total(0) = 3
+            pen(0, 1) = 1
+            undo() = 1
+            total(0) = 1
+            pen(2, 4) = 0
+            undo() = 0
+            pen(0, 4) = 0
+            pen(0, 3) = 3
+            """);
+        check("3 a smaller hut behind a greater one", HUT + HUT + """
+            hut{pen 0 5 1;pen 0 1 1;wire 0 1;sheet 2;} = 2
+            hut{pen 0 5 1;pen 0 1 1;wire 1 0;sheet 2;} = 2
+            told(3) = 3
+            told(10) = 0
+            pen(0, 5) = 0
+            pen(0, 6) = 2
+            pen(1, 6) = 0
+            wire(1, 0) throws NoSuchElementException
+            pen(2, 0) throws NoSuchElementException
+            reach(0) = 1
+            reach(1) = 3
+            ready(1) = 3
+            room() = 4
+            fits() = 3
+            liar(300, 0) = 0
+            liar(300, 1) = 336
+            look(0) = 1
+            best(1, 0, 1, 1) = 2
+            season(0, 20, 16, 2) = 0
+            hut{} = 0
+            season(0, 20, 16, 0) = 0
+            liar(5, 0) = -1
+            ready(5) = 0
+            room() = 0
             """);
         check("40 what restore leaves", HUT + """
             image() = 1

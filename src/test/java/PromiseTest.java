@@ -29,6 +29,7 @@ public final class PromiseTest {
         extremes();
         chains();
         rows();
+        greatestHut();
         tunings();
         rings();
         books();
@@ -504,6 +505,10 @@ public final class PromiseTest {
             pen(0, 4) = 2
             work{tear 1;copy 0 1 0;copy 1 0 0;copy 1 1 0;} = 1
             told(9) = 3
+            work{lay 1 3 3;copy 0 1 0;copy 1 0 0;copy 1 1 0;copy 0 1 1;} = 4
+            told(9) = 1
+            pen(1, 3) = 0
+            pen(0, 4) = 2
             """);
         check("5 strange ones are copied", """
             hut{pen 5 1 0;pen 5 1 0;} = 2
@@ -1109,6 +1114,41 @@ public final class PromiseTest {
             """);
     }
 
+    private static void greatestHut() {
+        String hut = "hut{" + "pen 3 1 1;".repeat(8) + "wire 0 7;".repeat(8) + "wire 7 0;".repeat(8) + "} = 8\n";
+        check("11 to 40 on the greatest hut", hut + hut + """
+            pen(7, 5) = 1
+            pen(7, 6) = 1
+            pen(1, 6) = 0
+            wire(15, 0) = 7
+            reach(7) = 129
+            fits() = 255
+            look(1) = 8
+            told(3) = 255
+            room() = 64
+            ready(0) = 255
+            liar(3, 0) = 0
+            best(7, 0, 5, 1) = 2
+            best(1, 0, 5, 1) = -1
+            work{read 7 5;hear 15;hear 0;read 1 1;day;tune 7 2 1;} = 6
+            image() = 1
+            undo() = 0
+            told(4) = 0
+            restore() = 0
+            told(4) = 1
+            latest(7) = 5
+            pen(7, 1) = 2
+            season(9, 96, 16, 2) = 0
+            span(9, 9, 9, 9, 2, 7) = 0
+            """);
+        StringBuilder row = new StringBuilder("hut{" + "pen 3 1 1;".repeat(8));
+        for (int i = 7; i > 0; i--) {
+            row.append("wire ").append(i).append(" ").append(i - 1).append(";");
+        }
+        check("24, 25 a row of eight", row + "} = 8\nbest(7, 0, 3, 1) = 8\nhop(7, 0, 3, 7) = 0\nhop(7, 0, 3, 8) = -1\n"
+            + "hop(7, 0, 3, 3) = 4\nreach(7) = 255\nreach(3) = 15\n");
+    }
+
     private static void tunings() {
         check("26 tuning", HUT + """
             tuning(1, 10, 6) = 203
@@ -1204,6 +1244,12 @@ public final class PromiseTest {
             look(0) = 0
             book{0 0;} = 1
             fits() = 12
+            work{tune 0 1 1;} = 1
+            book{150 -1;} = -9
+            book{44 44;} = 1
+            fits() = 1
+            look(0) = 0
+            look(1) = 1
             """);
         check("29 nothing tells them apart", """
             hut{pen 3 1 1;pen 4 1 1;pen 0 1 1;pen 6 1 1;} = 4
@@ -1278,6 +1324,8 @@ public final class PromiseTest {
             alike(0, 1) = true
             work{read 0 5;read 1 3;} = 2
             alike(1, 0) = false
+            work{wipe 0;wipe 1;read 0 1;read 1 1;} = 4
+            alike(0, 1) = false
             work{wipe 0;wipe 1;lay 1 7 0;} = 3
             alike(0, 1) = false
             work{read 3 0;read 4 0;} = 2

@@ -142,7 +142,7 @@ public final class UnlikePens {
         }
         history.keep(now);
         work.begin();
-        work.run(now, hut, law, 0, work.steps, 0);
+        Work.run(work, now, hut, law, 0, work.steps, 0);
         refusedSteps = work.refused;
         return work.done;
     }
@@ -1556,20 +1556,20 @@ public final class UnlikePens {
             refused = 0;
         }
 
-        private void run(State state, Hut hut, Law law, int from, int to, int open) {
+        private static void run(Work work, State state, Hut hut, Law law, int from, int to, int open) {
             int i = from;
-            while (i < to && i < MOST_STEPS && begun < MOST_BEGUN) {
-                begun++;
-                if (words[i] == AGAIN) {
-                    for (int round = 0; round < firsts[i] && open < MOST_OPEN; round++) {
-                        run(state, hut, law, i + 1, ends[i], open + 1);
+            while (i < to && i < MOST_STEPS && work.begun < MOST_BEGUN) {
+                work.begun++;
+                if (work.words[i] == AGAIN) {
+                    for (int round = 0; round < work.firsts[i] && open < MOST_OPEN; round++) {
+                        run(work, state, hut, law, i + 1, work.ends[i], open + 1);
                     }
-                } else if (isDone(state, hut, law, i)) {
-                    done++;
+                } else if (work.isDone(state, hut, law, i)) {
+                    work.done++;
                 } else {
-                    refused++;
+                    work.refused++;
                 }
-                i = Math.max(i + 1, ends[i]);
+                i = Math.max(i + 1, work.ends[i]);
             }
         }
 
@@ -1723,23 +1723,23 @@ public final class UnlikePens {
             goal = to;
             length = 0;
             far = 0;
-            goOn(from, 0, 0, v, v);
+            goOn(this, from, 0, 0, v, v);
         }
 
-        private void goOn(int pen, int depth, int used, int reading, int v) {
-            if (depth >= MOST_PENS || state == null || hut == null || state.pens[pen].jams()) {
+        private static void goOn(Rows rows, int pen, int depth, int used, int reading, int v) {
+            if (depth >= MOST_PENS || rows.state == null || rows.hut == null || rows.state.pens[pen].jams()) {
                 return;
             }
-            row[depth] = pen;
-            int read = state.pens[pen].outOf(reading);
-            if (pen == goal) {
-                weigh(depth + 1, distance(v, read));
+            rows.row[depth] = pen;
+            int read = rows.state.pens[pen].outOf(reading);
+            if (pen == rows.goal) {
+                rows.weigh(depth + 1, distance(v, read));
                 return;
             }
             int taken = used | 1 << pen;
-            for (int next = 0; next < hut.pens; next++) {
-                if ((taken >> next & 1) == 0 && hut.isHeardBy(pen, next)) {
-                    goOn(next, depth + 1, taken, read, v);
+            for (int next = 0; next < rows.hut.pens; next++) {
+                if ((taken >> next & 1) == 0 && rows.hut.isHeardBy(pen, next)) {
+                    goOn(rows, next, depth + 1, taken, read, v);
                 }
             }
         }

@@ -30,6 +30,7 @@ public final class LanguageTest {
         checkWords(code);
         checkThrows(code);
         checkMethodLengths(program);
+        checkRecursion(code);
         System.out.println(wrong == 0 ? "LanguageTest: nothing against the rules is seen"
             : "LanguageTest: " + wrong + " against the rules");
         System.exit(wrong == 0 ? 0 : 1);
@@ -128,5 +129,18 @@ public final class LanguageTest {
                 need(end - i < 60, "11: " + (end - i + 1) + " lines from line " + (i + 1) + " on");
             }
         }
+    }
+
+    /** A method that calls itself is private and static; the guard of its depth was read, not tested. */
+    private static void checkRecursion(String code) {
+        Matcher method = Pattern.compile("(?m)^( {4}| {8})([a-z][\\w\\[\\] ]*) (\\w+)\\([^;{]*\\{$").matcher(code);
+        int seen = 0;
+        while (method.find()) {
+            seen++;
+            String body = code.substring(method.end(), code.indexOf("\n" + method.group(1) + "}", method.end()));
+            boolean callsItself = Pattern.compile("(?<![.\\w])(this\\.)?" + method.group(3) + "\\(").matcher(body).find();
+            need(!callsItself || method.group(2).startsWith("private static "), "8: " + method.group(3));
+        }
+        need(seen > 100, "only " + seen + " methods are seen");
     }
 }
